@@ -203,11 +203,11 @@ public final class LeaseCluster {
         if (!isServer(server) || !isKey(key) || !isValue(value)) {
             return BAD;
         }
-        return propose(server, key, value);
+        return world.replicate(server, key, value);
     }
 
     public int barrier(int server) {
-        return isServer(server) ? propose(server, NONE, NONE) : BAD;
+        return isServer(server) ? world.replicate(server, NONE, NONE) : BAD;
     }
 
     public int read(int server, int key) {
@@ -241,7 +241,7 @@ public final class LeaseCluster {
         switch (what) {
             case 0: return asked.log.entries.size;
             case 1: return asked.log.committed;
-            case 2: return asked.log.lastTerm();
+            case 2: return asked.log.entries.lastOr(ENTRY_TERM, 0);
             case 3: return asked.log.lastCommitted(ENTRY_STAMP);
             case 4: return asked.owed.size;
             default: return BAD;
@@ -478,16 +478,6 @@ public final class LeaseCluster {
         return isWithin(number, 0, MOST_VALUE);
     }
 
-    private int propose(int server, int key, int value) {
-        if (!world.isHolder(server)) {
-            return STATE;
-        }
-        if (world.servers[server].log.entries.isFull()) {
-            return FULL;
-        }
-        return world.replicate(server, key, value);
-    }
-
     private int makeCall(int letter, int first, int second, int third) {
         switch (letter) {
             case 'a': return acquire(first, second);
@@ -546,13 +536,24 @@ public final class LeaseCluster {
         }
 
         int get(int row, int column) {
-            return has(row, column) ? numbers[row * ROW_WIDTH + column] : NONE;
+            if (row < 0 || row >= size || column < 0 || column >= ROW_WIDTH) {
+                return NONE;
+            }
+            return numbers[row * ROW_WIDTH + column];
         }
 
         void set(int row, int column, int number) {
-            if (has(row, column)) {
+            if (row >= 0 && row < size && column >= 0 && column < ROW_WIDTH) {
                 numbers[row * ROW_WIDTH + column] = number;
             }
+        }
+
+        /** A number of the last row, or another one if there is no row. */
+        int lastOr(int column, int otherwise) {
+            if (size == 0 || column < 0 || column >= ROW_WIDTH) {
+                return otherwise;
+            }
+            return numbers[(size - 1) * ROW_WIDTH + column];
         }
 
         void add(int first, int second, int third, int fourth) {
@@ -568,7 +569,7 @@ public final class LeaseCluster {
         }
 
         void dropFirst(int dropped) {
-            if (!isWithin(dropped, 1, size)) {
+            if (dropped <= 0 || dropped > size) {
                 return;
             }
             int left = size - dropped;
@@ -594,10 +595,6 @@ public final class LeaseCluster {
             }
             return most / ROW_WIDTH;
         }
-
-        private boolean has(int row, int column) {
-            return isWithin(row, 0, size - 1) && isWithin(column, 0, ROW_WIDTH - 1);
-        }
     }
 
     /** A log with its committed length. The committed history is one, too, all of it committed. */
@@ -610,23 +607,19 @@ public final class LeaseCluster {
             committed = 0;
         }
 
-        int lastTerm() {
-            return entries.size == 0 ? 0 : entries.get(entries.size - 1, ENTRY_TERM);
-        }
-
         int lastCommitted(int part) {
             return committed == 0 ? NONE : entries.get(committed - 1, part);
         }
 
         boolean isAtLeastAsRecentAs(Log other) {
-            int own = lastTerm();
-            int others = other.lastTerm();
+            int own = entries.lastOr(ENTRY_TERM, 0);
+            int others = other.entries.lastOr(ENTRY_TERM, 0);
             return own > others || own == others && entries.size >= other.entries.size;
         }
 
         void append(int term, int key, int value, int latest) {
-            int least = entries.size == 0 ? latest : entries.get(entries.size - 1, ENTRY_STAMP) + 1;
-            entries.add(term, key, value, Math.max(latest, least));
+            int before = entries.lastOr(ENTRY_STAMP, latest - 1);
+            entries.add(term, key, value, Math.max(latest, before + 1));
         }
 
         /** The value of a key in the committed part, as of a time. */
@@ -766,11 +759,11 @@ public final class LeaseCluster {
         }
 
         int earliest(int s) {
-            return reading(s) - doubt;
+            return time + servers[s].offset - doubt;
         }
 
         int latest(int s) {
-            return reading(s) + doubt;
+            return time + servers[s].offset + doubt;
         }
 
         boolean isReached(int a, int b) {
@@ -932,6 +925,12 @@ public final class LeaseCluster {
 
         int replicate(int s, int key, int value) {
             Server leader = servers[s];
+            if (!isHolder(s)) {
+                return STATE;
+            }
+            if (leader.log.entries.isFull()) {
+                return FULL;
+            }
             int committedBefore = leader.log.committed;
             leader.log.append(leader.leaseTerm, key, value, latest(s));
             int agreed = 1;

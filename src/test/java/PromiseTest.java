@@ -868,7 +868,13 @@ public final class PromiseTest {
         x.write(1, 1, 2);
         // The same keys and values, but other terms and timestamps.
         due("other terms", x.agreement(0, 1), 1);
-        due("the new leader and a follower", x.agreement(1, 4), 3);
+        x.setState(4, 2);
+        x.write(1, 1, 2);
+        x.write(1, 1, 2);
+        due("a log that is a beginning of the other one", x.agreement(4, 1), 3);
+        x.setState(4, 0);
+        x.write(1, 1, 2);
+        due("the new leader and a follower", x.agreement(1, 4), 6);
         for (int s : NO_SERVERS) {
             due("agreement(" + s + ", 0)", x.agreement(s, 0), BAD);
             due("agreement(0, " + s + ")", x.agreement(0, s), BAD);
@@ -1274,6 +1280,7 @@ public final class PromiseTest {
         }
         due("the history", x.history(5, 0), 321);
         due("the time", x.count(0), 10);
+        due("the link is mended", x.count(10), 10);
         due("the text stays", x.count(7), text.length());
         due("run() again", x.run(), due.length);
         due("it acts again", x.count(0), 20);
@@ -1402,6 +1409,11 @@ public final class PromiseTest {
         due("the results stay", x.result(0), 107);
         due("the time is restored", x.count(0), 6);
         due("terms may decrease", x.known(2, 0), 2);
+        x.acquire(4, 1);
+        x.acquire(3, 1);
+        due("a reason", x.reason(2), 3);
+        x.restore(0);
+        due("reasons are restored", x.reason(2), 0);
     }
 
     private static void count() {
@@ -1414,6 +1426,11 @@ public final class PromiseTest {
         }
         for (int what : new int[] {-1, 11, MIN, MAX}) {
             due("count(" + what + ")", x.count(what), BAD);
+        }
+        for (int s = 0; s < 5; s++) {
+            LeaseCluster y = new LeaseCluster(0);
+            y.acquire(s, 1);
+            due("the holder " + s, y.count(9), 1 << s);
         }
     }
 
