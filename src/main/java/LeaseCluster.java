@@ -12,6 +12,8 @@ public final class LeaseCluster {
     private static final int NO_MAJORITY = -10;
     private static final int MOST_DOUBT = 20;
     private static final int LAST_TIME = 100000;
+    /** No timestamp is after it. */
+    private static final int END_OF_TIME = 0x7fffffff;
     private static final int MOST_TICKS = 200;
     private static final int MOST_DURATION = 100;
     private static final int KEYS = 8;
@@ -219,7 +221,7 @@ public final class LeaseCluster {
                 || asked.log.lastCommitted(ENTRY_TERM) != asked.leaseTerm) {
             return STATE;
         }
-        return asked.log.lastValue(key, Integer.MAX_VALUE);
+        return asked.log.lastValue(key, END_OF_TIME);
     }
 
     public int readAt(int server, int key, int time) {
@@ -345,8 +347,8 @@ public final class LeaseCluster {
         }
         int stale = 0;
         for (int key = 0; key < KEYS; key++) {
-            int own = world.servers[server].log.lastValue(key, Integer.MAX_VALUE);
-            if (own != world.history.lastValue(key, Integer.MAX_VALUE)) {
+            int own = world.servers[server].log.lastValue(key, END_OF_TIME);
+            if (own != world.history.lastValue(key, END_OF_TIME)) {
                 stale++;
             }
         }

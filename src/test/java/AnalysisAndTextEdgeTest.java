@@ -96,6 +96,9 @@ public final class AnalysisAndTextEdgeTest extends EdgeTest {
             due("what is left", bound(31).waitFor(1), 1);
             due("nothing is left", bound(32).waitFor(1), 0);
             due("nor later", bound(33).waitFor(1), 0);
+            for (int third = 0; third < 5; third++) {
+                due("the third is " + third, thirdFree(third).waitFor(1), 32);
+            }
         });
         test("(A lease that it holds itself is not considered.)", () -> {
             due("acquire() of the holder", led().acquire(0, 1), STATE);
@@ -119,6 +122,16 @@ public final class AnalysisAndTextEdgeTest extends EdgeTest {
         x.setClock(4, -2);
         if (ticks > 0) {
             x.pass(ticks);
+        }
+        return x;
+    }
+
+    /** All clocks differ; one server is free after 32 ticks, two are earlier and two later. */
+    private static LeaseCluster thirdFree(int third) {
+        LeaseCluster x = new LeaseCluster(2);
+        x.acquire(0, 30);
+        for (int i = 0; i < 5; i++) {
+            x.setClock((third + i) % 5, i < 3 ? i : i - 5);
         }
         return x;
     }
@@ -270,18 +283,34 @@ public final class AnalysisAndTextEdgeTest extends EdgeTest {
     private static void brokenRules() {
         due("a lease of 4 that is not held", brokenLease(0), 1);
         due("two holders", brokenLease(1), 0);
-        // Of the entries of 4 one is committed, two are not: (1, 5, 5, 0), (1, 5, 6, 1), (1, 5, 7, 2).
-        due("nothing", broken(numbers -> { }), 1);
-        due("another committed entry", broken(numbers -> numbers[2] = 0), 0);
-        due("another entry that is not committed", broken(numbers -> numbers[6] = 0), 1);
-        due("a greater term", broken(numbers -> numbers[8] = 2), 1);
-        due("a lower term", broken(numbers -> numbers[8] = 0), 0);
-        due("a timestamp that is as great", broken(numbers -> numbers[11] = 1), 0);
-        due("a timestamp that is less", broken(numbers -> numbers[11] = 0), 0);
-        due("a timestamp that is greater by more than one", broken(numbers -> numbers[11] = 9), 1);
-        due("the whole history is committed", brokenLength(1), 1);
-        due("a committed part that is longer than the history", brokenLength(2), 0);
-        due("an empty committed part", brokenLength(0), 1);
+        for (int server = 0; server < 5; server++) {
+            brokenLogs(server);
+        }
+    }
+
+    /** Of the entries (1, 5, 5, 0), (1, 5, 6, 1) and (1, 5, 7, 2) one is committed, two are not. */
+    private static void brokenLogs(int s) {
+        due("nothing", broken(s, numbers -> { }), 1);
+        due("another committed entry", broken(s, numbers -> numbers[2] = 0), 0);
+        due("another entry that is not committed", broken(s, numbers -> numbers[6] = 0), 1);
+        due("a greater term", broken(s, numbers -> numbers[8] = 2), 1);
+        due("a lower term", broken(s, numbers -> numbers[8] = 0), 0);
+        due("a lower term of the second", broken(s, numbers -> numbers[4] = 0), 0);
+        due("terms that rise and fall", broken(s, numbers -> {
+            numbers[4] = 3;
+            numbers[8] = 2;
+        }), 0);
+        due("a timestamp that is as great", broken(s, numbers -> numbers[11] = 1), 0);
+        due("a timestamp that is less", broken(s, numbers -> numbers[11] = 0), 0);
+        due("one of the second that is as great", broken(s, numbers -> numbers[7] = 0), 0);
+        due("timestamps that rise and fall", broken(s, numbers -> {
+            numbers[7] = 9;
+            numbers[11] = 8;
+        }), 0);
+        due("a timestamp that is greater by more than one", broken(s, numbers -> numbers[11] = 9), 1);
+        due("the whole history is committed", brokenLength(s, 1), 1);
+        due("a committed part that is longer than the history", brokenLength(s, 2), 0);
+        due("an empty committed part", brokenLength(s, 0), 1);
     }
 
     private static int brokenLease(int end) {
@@ -292,25 +321,28 @@ public final class AnalysisAndTextEdgeTest extends EdgeTest {
         return x.isSafe();
     }
 
-    /** The history has one entry; the logs of 0 and 4 have two more. */
-    private static LeaseCluster withUncommitted() {
+    /** The history has one entry; the logs of 0 and of one more have two more. */
+    private static LeaseCluster withUncommitted(int other) {
         LeaseCluster x = led();
         x.write(0, 5, 5);
-        state(x, 1, 1, 2, 3);
+        state(x, 1, 1, 2, 3, 4);
+        if (other != 0) {
+            x.setState(other, 0);
+        }
         x.write(0, 5, 6);
         x.write(0, 5, 7);
         return x;
     }
 
-    private static int broken(Consumer<int[]> change) {
-        LeaseCluster x = withUncommitted();
-        change.accept((int[]) inside(x, "world", "servers", "4", "log", "entries", "numbers"));
+    private static int broken(int server, Consumer<int[]> change) {
+        LeaseCluster x = withUncommitted(server);
+        change.accept((int[]) inside(x, "world", "servers", "" + server, "log", "entries", "numbers"));
         return x.isSafe();
     }
 
-    private static int brokenLength(int committed) {
-        LeaseCluster x = withUncommitted();
-        put(inside(x, "world", "servers", "4", "log"), "committed", committed);
+    private static int brokenLength(int server, int committed) {
+        LeaseCluster x = withUncommitted(server);
+        put(inside(x, "world", "servers", "" + server, "log"), "committed", committed);
         return x.isSafe();
     }
 
@@ -369,6 +401,14 @@ public final class AnalysisAndTextEdgeTest extends EdgeTest {
                 due("result " + i, x.result(i), due[i]);
             }
             due("the time", x.count(0), 3);
+            LeaseCluster fewer = typed(new LeaseCluster(0), "p1;p2;p3;");
+            fewer.run();
+            fewer.clear();
+            due("a text with fewer calls", typed(fewer, "p1;").run(), 1);
+            due("makes no other call", fewer.count(0), 7);
+            fewer.clear();
+            fewer.run();
+            due("an empty text makes none", fewer.count(0), 7);
         });
         test("The text stays.", () -> {
             LeaseCluster x = fullText();

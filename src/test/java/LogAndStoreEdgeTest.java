@@ -318,11 +318,13 @@ public final class LogAndStoreEdgeTest extends EdgeTest {
             none.write(0, 1, 1);
             due("an empty log and another", none.agreement(0, 4), 0);
             due("the other way", none.agreement(4, 0), 0);
-            due("another term", differing(2, 6, 6, 0), 1);
-            due("another key", differing(1, 5, 6, 0), 1);
-            due("another value", differing(1, 6, 5, 0), 1);
-            due("another timestamp", differing(1, 6, 6, 1), 1);
-            due("nothing", differing(1, 6, 6, 0), 2);
+            for (int index = 0; index < 3; index++) {
+                due("another term", differing(index, 0), index);
+                due("another key", differing(index, 1), index);
+                due("another value", differing(index, 2), index);
+                due("another timestamp", differing(index, 3), index);
+            }
+            due("what is beyond a log of two entries", shortAgain(), 1);
         });
         test("`a`: a server, 0 to 4", () -> servers(EdgeTest::busy, "agreement", 2, 2, (x, a) -> x.agreement(a, 4)));
         test("`b`: a server, perhaps the same", () -> {
@@ -340,17 +342,23 @@ public final class LogAndStoreEdgeTest extends EdgeTest {
         });
     }
 
-    /** The agreement of two logs whose second entries are (1, 6, 6, 1) and one with other parts. */
-    private static int differing(int term, int key, int value, int later) {
-        LeaseCluster x = led();
-        x.write(0, 6, 6);
-        x.write(0, 6, 6);
-        // By calls alone terms and timestamps differ together, so the parts are put in one by one.
+    /** The agreement of two logs of three entries that differ in one part of one entry. */
+    private static int differing(int index, int part) {
+        LeaseCluster x = withEntries(3);
+        // By calls alone terms and timestamps differ together, so the other part is put in by the inside.
         int[] numbers = (int[]) inside(x, "world", "servers", "4", "log", "entries", "numbers");
-        numbers[4] = term;
-        numbers[5] = key;
-        numbers[6] = value;
-        numbers[7] += later;
+        numbers[4 * index + part]++;
+        return x.agreement(0, 4);
+    }
+
+    /** All logs had the same two entries; then the second was undone, and made again without server 4. */
+    private static int shortAgain() {
+        LeaseCluster x = withEntries(1);
+        x.save(0);
+        x.write(0, 1, 1);
+        x.restore(0);
+        x.setState(4, 1);
+        x.write(0, 1, 1);
         return x.agreement(0, 4);
     }
 

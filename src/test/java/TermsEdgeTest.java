@@ -1373,6 +1373,10 @@ public final class TermsEdgeTest extends EdgeTest {
             got[i] = x.result(i);
         }
         dueAll("results", got, 1, 60, 0, 1, 10, 2, 0, 1, 0, 4, NONE);
+        due("the link is mended", x.count(10), 10);
+        LeaseCluster cut = typed(new LeaseCluster(0), "c0 4;");
+        cut.run();
+        due("the link is cut", cut.setLink(4, 0, true), 0);
     }
 
     /** A call with this many numbers, each of them 0. */
@@ -1390,9 +1394,13 @@ public final class TermsEdgeTest extends EdgeTest {
             }
         }
         LeaseCluster x = led();
-        typed(x, "w0 1 2;").run();
+        typed(x, "w0 1 2;w0 3 4;h0 1 50;").run();
         due("the key", x.entry(0, 0, 1), 1);
         due("the value", x.entry(0, 0, 2), 2);
+        due("the key of the next call", x.entry(0, 1, 1), 3);
+        due("its value", x.entry(0, 1, 2), 4);
+        due("the heir", x.holds(1), 1);
+        due("the duration", x.known(1, 4), 50);
     }
 
     private static void digits() {
