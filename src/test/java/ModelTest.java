@@ -277,6 +277,24 @@ public final class ModelTest {
             return nodes[s].log.subList(0, nodes[s].committed);
         }
 
+        boolean keepsRules() {
+            int holders = 0;
+            for (int s = 0; s < 5; s++) {
+                holders += holding(s) ? 1 : 0;
+                List<Entry> log = nodes[s].log;
+                for (int i = 0; i + 1 < log.size(); i++) {
+                    if (log.get(i).term() > log.get(i + 1).term() || log.get(i).stamp() >= log.get(i + 1).stamp()) {
+                        return false;
+                    }
+                }
+                int length = nodes[s].committed;
+                if (length > history.size() || !history.subList(0, length).equals(committedPart(s))) {
+                    return false;
+                }
+            }
+            return holders <= 1;
+        }
+
         List<Ack> keptAcks() {
             return acks.subList(Math.max(0, acks.size() - 50), acks.size());
         }
@@ -521,10 +539,8 @@ public final class ModelTest {
                     }
                     return n;
                 }
-                case "isSafe": {
-                    // The rules of the document keep all of it; the model would not notice if they did not.
-                    return 1;
-                }
+                case "isSafe":
+                    return keepsRules() ? 1 : 0;
                 case "type":
                     if (!in(a, 0, 127)) return BAD;
                     if (text.length() == 100) return FULL;

@@ -61,8 +61,6 @@ public final class PromiseTest {
             promise = i + 1;
             tests[i].run();
         }
-        promise = 0;
-        examples();
         System.out.println(checks + " checks of " + tests.length + " promises, " + wrong + " wrong");
         if (wrong != 0) {
             System.exit(1);
@@ -1478,37 +1476,5 @@ public final class PromiseTest {
         due("again", y.digest(), y.digest());
         change(y);
         due("still later", y.digest(), hashOf(y, new int[] {2, 0, 0, 0, 0}));
-    }
-
-    /** The four examples of the document. */
-    private static void examples() {
-        LeaseCluster x = new LeaseCluster(5);
-        int[] one = {x.acquire(0, 30), x.known(0, 4), x.safeFor(0), x.waitFor(1), x.acquire(1, 30), x.reason(0),
-            x.pass(35), x.holds(0), x.acquire(1, 30), x.known(1, 3)};
-        int[] oneDue = {1, 30, 25, 35, -10, 3, 35, 0, 3, 3};
-        same("example 1", one, oneDue);
-        LeaseCluster y = new LeaseCluster(2);
-        int[] two = {y.acquire(3, 50), y.read(3, 4), y.write(3, 4, 12), y.read(3, 4), y.log(0, 1), y.log(3, 4),
-            y.pass(4), y.log(3, 4), y.pass(1), y.acknowledgement(0, 3), y.handOver(3, 0, 20), y.read(0, 4),
-            y.barrier(0), y.read(0, 4)};
-        int[] twoDue = {1, -1002, 0, 12, 0, 1, 4, 1, 5, 5, 2, -1002, 1, 12};
-        same("example 2", two, twoDue);
-        LeaseCluster z = new LeaseCluster(0);
-        int[] three = {z.acquire(0, 10), z.send(0, 1, 5), z.pass(10), z.acquire(1, 10), z.send(1, 1, 6),
-            z.deliver(1), z.deliver(0), z.cell(1, 0), z.deliver(0), z.send(0, 1, 7), z.setState(2, 2),
-            z.setState(3, 2), z.write(1, 0, 1), z.setState(4, 2), z.write(1, 0, 2)};
-        int[] threeDue = {1, 0, 10, 2, 1, 1, 0, 6, -1002, -1002, 0, 0, 0, 0, -12};
-        same("example 3", three, threeDue);
-        LeaseCluster u = new LeaseCluster(1);
-        int[] four = {u.type(97), u.type(48), u.type(32), u.type(57), u.type(59), u.type(112), u.type(32),
-            u.type(51), u.type(59), u.run(), u.result(0), u.result(1), u.result(2), u.type(49), u.run()};
-        int[] fourDue = {1, 2, 3, 4, 5, 6, 7, 8, 9, 2, 1, 3, -1000, 10, -2009};
-        same("example 4", four, fourDue);
-    }
-
-    private static void same(String name, int[] got, int[] want) {
-        for (int i = 0; i < want.length; i++) {
-            due(name + ", call " + i, got[i], want[i]);
-        }
     }
 }

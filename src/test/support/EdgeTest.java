@@ -46,7 +46,7 @@ abstract class EdgeTest {
                 found.put(part.substring(0, end).trim(), part.substring(end).replaceAll("\\s+", " ").trim());
             }
         } catch (IOException e) {
-            System.out.println(DOCUMENT + " cannot be read, so no quotation is looked up");
+            System.out.println(DOCUMENT + " cannot be read: " + e);
         }
         return found;
     }
@@ -123,6 +123,9 @@ abstract class EdgeTest {
     }
 
     static void finish() {
+        if (texts.isEmpty()) {
+            fault("the document is not there, so no words were looked up");
+        }
         for (Map.Entry<String, boolean[]> one : quoted.entrySet()) {
             lookForUnquoted(one.getKey(), one.getValue());
         }
